@@ -276,7 +276,7 @@ public final class EdgeCode {
 
     /** NONE tells who is not ranked, as a total is 0 at least. */
     private void fillRanking(Edition edition) {
-        for (int i = 0; i < SKATERS; i++) {
+        for (int i = 0; i < rankedTotals.length && i < rankedElementScores.length; i++) {
             Programme programme = programmeOf(i);
             if (programme != null && programme.hasEnded) {
                 rankedElementScores[i] = programme.elementScoresBy(edition);
@@ -288,8 +288,12 @@ public final class EdgeCode {
         }
     }
 
+    private boolean isRankPlace(int skater) {
+        return skater >= 0 && skater < rankedTotals.length && skater < rankedElementScores.length;
+    }
+
     private boolean isRanked(int skater) {
-        return skater >= 0 && skater < SKATERS && rankedTotals[skater] != NONE;
+        return isRankPlace(skater) && rankedTotals[skater] != NONE;
     }
 
     private boolean isAhead(int one, int other) {
@@ -360,8 +364,12 @@ public final class EdgeCode {
         private int least = 0;
         private int greatest = 0;
 
+        private boolean isSeat(int voter) {
+            return voter >= 0 && voter < numbers.length && voter < isTold.length;
+        }
+
         void tell(int voter, int number) {
-            if (voter < 0 || voter >= JUDGES) {
+            if (!isSeat(voter)) {
                 return;
             }
             numbers[voter] = number;
@@ -373,7 +381,7 @@ public final class EdgeCode {
         private void recount() {
             count = 0;
             sum = 0;
-            for (int i = 0; i < JUDGES; i++) {
+            for (int i = 0; i < numbers.length && i < isTold.length; i++) {
                 if (isTold[i]) {
                     least = count == 0 ? numbers[i] : Math.min(least, numbers[i]);
                     greatest = count == 0 ? numbers[i] : Math.max(greatest, numbers[i]);
@@ -400,7 +408,7 @@ public final class EdgeCode {
         }
 
         boolean hasTold(int voter) {
-            return voter >= 0 && voter < JUDGES && isTold[voter];
+            return isSeat(voter) && isTold[voter];
         }
 
         int numberOf(int voter) {
