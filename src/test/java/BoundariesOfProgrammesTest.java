@@ -556,6 +556,14 @@ public final class BoundariesOfProgrammesTest extends Boundaries {
         Story mixed = begun().spin(1, 6).spin(3, 6).spin(3, 6);
         answers("level of old and new", mixed, x -> x.element(0, 1, 0, TURNS), 1);
         answers("level behind it", mixed, x -> x.element(0, 2, 0, TURNS), 0);
+        Story several = begun();
+        for (int feature = 0; feature < 6; feature++) {
+            several = several.spin(1 << feature, 6);
+        }
+        for (int feature = 0; feature < 6; feature++) {
+            int one = 1 << feature;
+            answers("level of " + one + " behind six spins", several.spin(one, 6), x -> x.element(0, 6, 0, TURNS), 0);
+        }
         Story withJump = begun().spin(1, 6).turns(STEP).jump(TOE, 1, false).spin(1, 6);
         answers("level behind a jump", withJump, x -> x.element(0, 2, 0, TURNS), 0);
     }

@@ -225,6 +225,19 @@ public final class BoundariesOfRanksTest extends Boundaries {
         ranks("0 of 60 less 100, and 0 of nothing", single(skaters(2).begin(1).end(), 0, LUTZ, true), 0, 0, 1);
     }
 
+    /** "but 0 at least" ahead of the ranks: of totals of 0 it is not asked how much greater the fine was. */
+    static void promise13_ranksOfTotalsOf0() {
+        Story lesserFine = single(skaters(2), 0, LOOP, true);
+        Story two = lesserFine.begin(1).turns(MOHAWK).jump(TOE, 1, true).jump(LOOP, 1, true).end();
+        ranks("50 less 100, and 90 less 200", two, 0, 1, 0);
+        ranks("50 less 100, and 50 less 200", two.value(0, TOE, 1, 0), 0, 0, 1);
+        order("50 less 100, and 90 less 200", two, 0, 0, 1);
+        Story empty = skaters(2).begin(0).end().begin(1).turns(MOHAWK).jump(TOE, 1, true).end();
+        ranks("none, and 40 less 100", empty, 0, 1, 0);
+        ranks("none, and 0 less 100", empty.value(0, TOE, 1, 0), 0, 0, 1);
+        ranks("none, and 100 less 100", empty.value(0, TOE, 1, 100), 0, 1, 0);
+    }
+
     /** "then the lower number": of 2 to 12 that are alike, in whatever order they skated. */
     static void promise13_ranksByNumbers() {
         for (int many = 1; many <= 12; many++) {
@@ -449,6 +462,21 @@ public final class BoundariesOfRanksTest extends Boundaries {
             addsUp(i + 1 + " full programmes", story);
         }
         addsUp("all judged", story.grades(11, 11, 5, 5, 5).grades(11, 0, -5, -5, -4).components(11, 2, 40, 39, 38));
+    }
+
+    /** "one by one, from the last element on": the 12th one, and the first one, score. */
+    static void promise16_fromTheLastElementOn() {
+        Story jumps = begun().times(5, x -> x.spin(0, 1)).turns(STEP);
+        for (int i = 0; i < 7; i++) {
+            jumps = jumps.jump(i % 2 == 0 ? TOE : LOOP, 1 + i / 2, false);
+        }
+        answers("base of the 12th", jumps, x -> x.element(0, 11, 0, BASE), 950);
+        addsUp("of 12, the last one a jump that counts", jumps);
+        addsUp("the same, graded", jumps.end().grades(0, 11, 5, 4, 3));
+        Story spins = toes(9).spin(0, 1).spin(0, 1).spin(15, 6);
+        answers("base of the 12th", spins, x -> x.element(0, 11, 0, BASE), 270);
+        addsUp("of 12, the last one a spin that counts", spins.end());
+        addsUp("of one", begun().jump(AXEL, 4, false).end());
     }
 
     /** "by each edition", with the least and the greatest values. */

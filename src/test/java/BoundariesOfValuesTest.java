@@ -404,10 +404,14 @@ public final class BoundariesOfValuesTest extends Boundaries {
         }
     }
 
-    /** "its base, and Math.rint of: its base as a double times the trimmed mean of its grades by 10.0": each base. */
+    /**
+     * "its base, and Math.rint of: its base as a double times the trimmed mean of its grades by 10.0": of each base.
+     * "(first times, then by)": some scores of the last panels would be others, if it were first by 10.0.
+     */
     static void promise12_scoreOfEachBase() {
         int[][] panels = {{1, 1, 1}, {-1, -1, -1}, {5, 5, 5}, {-5, -5, -5}, {0, 1, 1, 5}, {-2, 0, 1, 1, 4, 4, -3},
-            {0, 0, 1, 0, 1}, {-1, 0, 0, -1, 0, 0}, {3, -4, 1, 0, 2, -1}};
+            {0, 0, 1, 0, 1}, {-1, 0, 0, -1, 0, 0}, {3, -4, 1, 0, 2, -1}, {0, 1, 2, 2, 5}, {0, -1, -2, -2, -5},
+            {0, 3, 4, 5}, {0, 2, 3, 3, 3, 5}, {0, 3, 3, 3, 4, 4, 5}};
         for (int[] panel : panels) {
             Story story = begun().jump(AXEL, 2, false).end().grades(0, 0, panel);
             EdgeCode x = story.told();
