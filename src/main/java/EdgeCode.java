@@ -16,8 +16,9 @@ public final class EdgeCode {
     private static final int COUNTED_JUMPS = 7, COUNTED_LIKE_JUMPS = 2, COUNTED_SPINS = 3;
     private static final int LEVEL_ROUNDS = 6;
 
-    /** By kind, then by turns or level; 0 turns are what is left of a single jump that is far too short. */
+    /** How many values a kind has: for 0 to 4 turns or levels. */
     private static final int VALUE_ROW = 5;
+    /** By kind, then by turns or level; 0 turns are what is left of a single jump that is far too short. */
     private static final int[] FIRST_VALUES = {
         0, 40, 130, 420, 950,
         0, 40, 130, 430, 970,
